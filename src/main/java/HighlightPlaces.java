@@ -6,6 +6,9 @@
 public final class HighlightPlaces {
     public static final int BAD = -1, FULL = -2;
 
+    // A new object is small; its rows grow with what they hold, and are used again then.
+    private static final int FIRST_CELLS = 8;
+
     private static final int NO_FAULT = -1;
     private static final int TAPE_MOST = 1000;
     private static final int FEED_BYTES = 20;
@@ -242,13 +245,15 @@ public final class HighlightPlaces {
         return divisor > 0 ? dividend / divisor : 0;
     }
 
-    /** Numbers in a row of fixed room. It looks at every index itself, so that its users need not. */
+    /** Numbers in a row, at most so many. It looks at every index itself, so that its users need not. */
     private static final class Row {
-        private final int[] cells;
+        private final int most;
+        private int[] cells;
         private int used;
 
-        Row(int room) {
-            cells = new int[Math.max(0, room)];
+        Row(int most) {
+            this.most = most;
+            cells = new int[FIRST_CELLS];
             used = 0;
         }
 
@@ -281,7 +286,10 @@ public final class HighlightPlaces {
         }
 
         void add(int value) {
-            if (used < cells.length) {
+            if (used < most) {
+                makeRoom(used + 1);
+            }
+            if (used < most && used < cells.length) {
                 cells[used] = value;
                 used++;
             }
@@ -298,9 +306,9 @@ public final class HighlightPlaces {
         }
 
         void fill(int n, int value) {
-            used = Math.max(0, Math.min(n, cells.length));
-            for (int i = 0; i < used; i++) {
-                cells[i] = value;
+            used = 0;
+            for (int i = 0; i < n; i++) {
+                add(value);
             }
         }
 
@@ -309,6 +317,18 @@ public final class HighlightPlaces {
             for (int i = 0; i < other.size(); i++) {
                 add(other.get(i));
             }
+        }
+
+        /** Twice as many cells as before, so that few arrays are made however long the row becomes. */
+        private void makeRoom(int n) {
+            if (n <= cells.length || n > most) {
+                return;
+            }
+            int[] more = new int[2 * n < most ? 2 * n : most];
+            for (int i = 0; i < cells.length && i < more.length; i++) {
+                more[i] = cells[i];
+            }
+            cells = more;
         }
     }
 
@@ -435,7 +455,9 @@ public final class HighlightPlaces {
             if (open.starts.size() > 0) {
                 return bytes.size();
             }
-            endSentence();
+            if (wordCount() > 0) {
+                sentenceEnd.add(fullEnd);
+            }
             return NO_FAULT;
         }
 
@@ -529,8 +551,10 @@ public final class HighlightPlaces {
 
         private void beginWord(int at) {
             boolean first = wordCount() == 0;
+            if (!first && (broken || stopped)) {
+                sentenceEnd.add(fullEnd);
+            }
             if (first || broken || stopped) {
-                endSentence();
                 sentenceWord.add(wordCount());
             }
             int step = broken ? BREAK_STEP : 1;
@@ -544,20 +568,14 @@ public final class HighlightPlaces {
             broken = false;
             stopped = false;
         }
-
-        private void endSentence() {
-            if (sentenceWord.size() > sentenceEnd.size()) {
-                sentenceEnd.add(fullEnd);
-            }
-        }
     }
 
     /**
      * THE QUERY: its LEAVES, their TERMS, and a tree of nodes, each of which stands behind its parent.
-     * A LEAF that is a TERM is held as a phrase of one.
+     * A LEAF that is a TERM is held as a phrase of one. Its bytes have a .. z for A .. Z.
      */
     private static final class Query {
-        final Row letters;
+        final Row bytes;
         final Row termStart;
         final Row termLength;
         final Row termKind;
@@ -567,7 +585,6 @@ public final class HighlightPlaces {
         final Row nodeKind;
         final Row nodeParent;
         final Row nodeLeaf;
-        private final Row bytes;
         private int at;
         private int current;
         private int depth;
@@ -575,7 +592,6 @@ public final class HighlightPlaces {
 
         Query() {
             bytes = new Row(TAPE_MOST);
-            letters = new Row(TAPE_MOST);
             termStart = new Row(LEAVES_MOST * TERMS_MOST);
             termLength = new Row(LEAVES_MOST * TERMS_MOST);
             termKind = new Row(LEAVES_MOST * TERMS_MOST);
@@ -607,8 +623,10 @@ public final class HighlightPlaces {
         }
 
         private void begin(Row tape) {
-            bytes.copy(tape);
-            letters.clear();
+            bytes.clear();
+            for (int i = 0; i < tape.size(); i++) {
+                bytes.add(small(tape.get(i)));
+            }
             termStart.clear();
             termLength.clear();
             termKind.clear();
@@ -734,12 +752,11 @@ public final class HighlightPlaces {
         }
 
         private boolean takeTerm() {
-            int start = letters.size();
-            int length = 0;
-            for (; length < TERM_LETTERS_MOST && isWordSign(bytes.get(at)); length++) {
-                letters.add(small(bytes.get(at)));
+            int start = at;
+            while (at < start + TERM_LETTERS_MOST && isWordSign(bytes.get(at))) {
                 at++;
             }
+            int length = at - start;
             if (length == 0 || isWordSign(bytes.get(at))) {
                 return false;
             }
@@ -869,15 +886,21 @@ public final class HighlightPlaces {
         private boolean wordFits(int word, int term) {
             int wordLength = text.letterCount.get(word);
             int termLength = query.termLength.get(term);
-            int ahead = sameAhead(word, term);
-            switch (query.termKind.get(term)) {
-                case EXACT: return ahead == termLength && wordLength == termLength;
-                case BEGINNING: return ahead == termLength;
-                default:
-                    int shorter = Math.min(wordLength, termLength);
-                    int behind = sameBehind(word, term, shorter - ahead);
-                    return Math.max(wordLength, termLength) - ahead - behind <= 1;
+            int kind = query.termKind.get(term);
+            if (kind == ERROR) {
+                return hasOneError(word, term, Math.min(wordLength, termLength), Math.max(wordLength, termLength));
             }
+            boolean longEnough = kind == BEGINNING ? wordLength >= termLength : wordLength == termLength;
+            return longEnough && sameAhead(word, term) == termLength;
+        }
+
+        /** Whether all but one letter at most of the longer one are the same ahead and behind of that one. */
+        private boolean hasOneError(int word, int term, int shorter, int longer) {
+            if (longer - shorter > 1) {
+                return false;
+            }
+            int ahead = sameAhead(word, term);
+            return longer - ahead - sameBehind(word, term, shorter - ahead) <= 1;
         }
 
         /** How many letters are the same from the first on. */
@@ -886,7 +909,7 @@ public final class HighlightPlaces {
             int wordAt = text.letterStart.get(word);
             int termAt = query.termStart.get(term);
             int same = 0;
-            while (same < most && text.letters.get(wordAt + same) == query.letters.get(termAt + same)) {
+            while (same < most && text.letters.get(wordAt + same) == query.bytes.get(termAt + same)) {
                 same++;
             }
             return same;
@@ -897,7 +920,7 @@ public final class HighlightPlaces {
             int wordAt = text.letterStart.get(word) + text.letterCount.get(word) - 1;
             int termAt = query.termStart.get(term) + query.termLength.get(term) - 1;
             int same = 0;
-            while (same < most && text.letters.get(wordAt - same) == query.letters.get(termAt - same)) {
+            while (same < most && text.letters.get(wordAt - same) == query.bytes.get(termAt - same)) {
                 same++;
             }
             return same;
@@ -1052,9 +1075,10 @@ public final class HighlightPlaces {
 
         private int hitsIn(int sentence, int leaf) {
             int first = text.sentenceWord.get(sentence);
+            int behind = first + text.wordsOf(sentence);
             int hits = 0;
-            for (int i = 0; i < text.wordsOf(sentence) && hits < HITS_MOST; i++) {
-                if (firsts.hasBit(first + i, leaf)) {
+            for (int word = first; word < behind && hits < HITS_MOST; word++) {
+                if (firsts.hasBit(word, leaf)) {
                     hits++;
                 }
             }
@@ -1200,7 +1224,8 @@ public final class HighlightPlaces {
 
         /** The letters of the opening tag at start, and its >. */
         private void putLetters(Row bytes, int start) {
-            for (int i = 1; i < Tags.lengthAt(bytes, start); i++) {
+            int length = Tags.lengthAt(bytes, start);
+            for (int i = 1; i < length; i++) {
                 out.add(bytes.get(start + i));
             }
         }

@@ -187,6 +187,8 @@ public final class HighlightPlacesPromises {
         due("301 words, a fault behind", text(x, "a ".repeat(300) + "<b>a&"), -1 - 603);
         due("a word of 1000", text(x, "a".repeat(1000)), 1);
         due("its letters", x.word(0, 5), 1000);
+        due("z and Z", text(x, "<z></z><az>zZ</az>"), 1);
+        due("its letters", letters(x, 0), "zz");
         due("empty", x.text(), 0);
         due("words of an empty one", x.count(0), 0);
         x = held("sun. sea.", "sun");
@@ -500,6 +502,10 @@ public final class HighlightPlacesPromises {
         }
         due("passage(3, 0)", x.passage(3, 0), BAD);
         due("passage(0, 2)", x.passage(0, 2), BAD);
+        x = held("a ".repeat(248) + ". " + "a" + " x".repeat(19), "a");
+        due("a score cut off to 0", x.sentence(0, 2), 0);
+        due("a score of 1", x.sentence(1, 2), 1);
+        due("above 0", chosen(x, 9), "1-1");
         due("without a score", chosen(held("a. b. c", "d"), 3), "0-0");
         due("a query that is true without a score", chosen(held("a. b. c", "!d"), 3), "0-0");
         due("without sentences", chosen(held(" ... ", "d"), 3), "");
@@ -547,6 +553,48 @@ public final class HighlightPlacesPromises {
         due("nine passages in eight tags", some(x), (one + "...").repeat(8) + one);
         x = held("<b>a</b>".repeat(125), "a*");
         due("one word of many rows", whole(x), "<b>[a]</b>".repeat(125));
+    }
+
+    /** One object, used again for longer and shorter texts and queries, answers as a new one does. */
+    private static void usedAgain() {
+        String[] texts = {SUN, "b", "<p>One. Two</p> three! four five six. seven sun", "", "sun sea sun", ". a<p>b</p>."};
+        String[] queries = {"sun | \"sea sun\" & cat~", "b*", "\"one two three\"/9 | !(a & \"four five\") & (six | sun)",
+            "!a", "zz~", "(a|b)&!c"};
+        HighlightPlaces x = new HighlightPlaces();
+        for (int i = 0; i < 36; i++) {
+            String text = texts[i * 5 % 6];
+            String query = queries[i / 6];
+            text(x, "<p>x. y</p> z<");
+            query(x, "a & (\"b c*\"/3 | !d");
+            text(x, text);
+            query(x, query);
+            due("again " + text + " ? " + query, all(x), all(held(text, query)));
+        }
+    }
+
+    private static String all(HighlightPlaces x) {
+        StringBuilder out = new StringBuilder();
+        for (int k = 0; k < x.count(0); k++) {
+            out.append(letters(x, k));
+            for (int what = 0; what < 6; what++) {
+                out.append(' ').append(x.word(k, what));
+            }
+        }
+        for (int k = 0; k < x.count(1); k++) {
+            for (int what = 0; what < 5; what++) {
+                out.append(' ').append(x.sentence(k, what));
+            }
+        }
+        for (int k = 0; k < x.count(3); k++) {
+            for (int what = 0; what < 6; what++) {
+                out.append(' ').append(x.leaf(k, what));
+            }
+        }
+        out.append(' ').append(x.matches()).append(places(x)).append(chosen(x, 2)).append(whole(x)).append(some(x));
+        for (int what = 0; what < 9; what++) {
+            out.append(' ').append(x.count(what));
+        }
+        return out.toString();
     }
 
     private static void promise16() {
@@ -624,6 +672,8 @@ public final class HighlightPlacesPromises {
         promise13and14();
         part = "promise 15";
         promise15();
+        part = "used again";
+        usedAgain();
         part = "promise 16";
         promise16();
         part = "promise 17";
