@@ -1,3 +1,4 @@
+import java.lang.reflect.Field;
 import java.lang.reflect.Member;
 import java.lang.reflect.Method;
 import java.lang.reflect.Modifier;
@@ -40,7 +41,7 @@ public final class HighlightPlacesFace {
         members.addAll(List.of(HighlightPlaces.class.getDeclaredMethods()));
         members.addAll(List.of(HighlightPlaces.class.getDeclaredConstructors()));
         for (Member member : members) {
-            if (!Modifier.isPrivate(member.getModifiers())) {
+            if (!Modifier.isPrivate(member.getModifiers()) && !member.isSynthetic()) {
                 found.add(faceOf(member));
             }
         }
@@ -58,22 +59,38 @@ public final class HighlightPlacesFace {
             }
         }
         Class<?>[] inside = HighlightPlaces.class.getDeclaredClasses();
-        due("at most twelve classes", inside.length <= 11, true);
+        due("whether it has some twelve classes at most", inside.length <= 13, true);
+        checkMembers(HighlightPlaces.class, names);
         for (Class<?> one : inside) {
             due(one + " static", Modifier.isStatic(one.getModifiers()), true);
-            due(one + " not public", Modifier.isPublic(one.getModifiers()), false);
-            due(one + " has at most twenty fields", one.getDeclaredFields().length <= 20, true);
-            for (Method method : one.getDeclaredMethods()) {
-                due(method + " bears a public name", names.contains(method.getName()), false);
-            }
+            due(one + " public", Modifier.isPublic(one.getModifiers()), false);
+            due(one + " protected", Modifier.isProtected(one.getModifiers()), false);
+            checkMembers(one, names);
         }
     }
 
+    private static void checkMembers(Class<?> one, TreeSet<String> publicNames) {
+        int fields = 0;
+        for (Field field : one.getDeclaredFields()) {
+            boolean constant = Modifier.isStatic(field.getModifiers());
+            due(field + " is final, if it is static", !constant || Modifier.isFinal(field.getModifiers()), true);
+            fields += constant ? 0 : 1;
+        }
+        due(one + " has some twenty fields at most", fields <= 22, true);
+        for (Method method : one.getDeclaredMethods()) {
+            boolean hidden = Modifier.isPrivate(method.getModifiers());
+            due(method + " bears a public name", hidden && publicNames.contains(method.getName()), false);
+            due(method + " takes at most seven", method.getParameterCount() <= 7, true);
+        }
+    }
+
+    /** Words that LANGUAGE.md leaves no use for. */
     private static void checkSource() throws Exception {
         String source = Files.readString(Path.of("src/main/java/HighlightPlaces.java"));
         String code = source.replaceAll("(?s)/\\*.*?\\*/", "").replaceAll("//[^\n]*", "");
-        Pattern refused = Pattern.compile("\\b(throw|throws|try|catch|synchronized|assert|import|package|"
-            + "protected|Exact|String|double|float|random|Thread|System)\\b|->|::|Exact\\(");
+        Pattern refused = Pattern.compile("\\b(throw|throws|try|catch|finally|synchronized|volatile|assert|package|"
+            + "protected|native|Object|Thread|Random|Class|Runtime|nanoTime|currentTimeMillis)\\b|::|Exact\\b|"
+            + "\\bSystem\\b(?!\\.arraycopy)|\\bimport\\b(?! java\\.util\\.(ArrayList|List|Iterator|Arrays);)");
         Matcher matcher = refused.matcher(code);
         while (matcher.find()) {
             due("a word that is ruled out", matcher.group(), "");

@@ -11,14 +11,14 @@ import java.util.regex.Pattern;
  */
 public final class HighlightPlacesModelRuns {
     private static final int RUNS = 3000;
-    private static int wrong = 0;
 
     public static void main(String[] args) {
+        Bench.begin();
         Maker maker = new Maker(20261115L);
         int goodTexts = 0;
         int goodQueries = 0;
         int lit = 0;
-        for (int run = 0; run < RUNS && wrong < 40; run++) {
+        for (int run = 0; run < RUNS && Bench.wrong() < 40; run++) {
             Pair pair = new Pair(run);
             for (int round = 0; round < 3; round++) {
                 goodTexts += pair.text(maker.text()) >= 0 ? 1 : 0;
@@ -34,51 +34,37 @@ public final class HighlightPlacesModelRuns {
         }
         System.out.println(RUNS + " runs, " + goodTexts + " texts and " + goodQueries + " queries without fault, "
             + lit + " places");
-        if (goodTexts < RUNS || goodQueries < RUNS || lit < 3 * RUNS) {
-            wrong++;
-            System.out.println("the made up inputs are too poor");
-        }
-        System.out.println(wrong == 0 ? "all answers are as due" : wrong + " answers are not as due");
-        if (wrong != 0) {
-            System.exit(1);
-        }
+        boolean rich = goodTexts >= RUNS && goodQueries >= RUNS && lit >= 3 * RUNS;
+        Bench.due("whether the made up inputs are rich", rich ? 1 : 0, 1);
+        Bench.end();
     }
 
     /** The class and the model side by side. */
     private static final class Pair {
-        final HighlightPlaces x = new HighlightPlaces();
+        final Bench x = new Bench();
         final Model model = new Model();
-        final int run;
-        String story = "";
+        String story;
 
         Pair(int run) {
-            this.run = run;
+            story = "run " + run;
+        }
+
+        void tell(String what) {
+            story += what;
+            Bench.part(story);
         }
 
         void due(String call, int got, int want) {
-            if (got != want) {
-                wrong++;
-                System.out.println("run " + run + story + ": " + call + " answered " + got + ", due is " + want);
-            }
+            Bench.due(call, got, want);
         }
 
         void load(String bytes) {
-            int[] five = new int[5];
-            for (int from = 0; from < bytes.length(); from += 20) {
-                for (int k = 0; k < 5; k++) {
-                    five[k] = 0;
-                    for (int i = from + 4 * k; i < from + 4 * k + 4; i++) {
-                        five[k] = five[k] << 8 | (i < bytes.length() ? bytes.charAt(i) : 'z');
-                    }
-                }
-                due("feed", x.feed(five[0], five[1], five[2], five[3], five[4]), from + 20);
-            }
-            x.cut(bytes.length());
+            x.load(bytes);
             due("count(8)", x.count(8), bytes.length());
         }
 
         int text(String bytes) {
-            story += " text{" + bytes + "}";
+            tell(" text{" + bytes + "}");
             load(bytes);
             int want = model.text(bytes);
             due("text()", x.text(), want);
@@ -86,7 +72,7 @@ public final class HighlightPlacesModelRuns {
         }
 
         int query(String bytes) {
-            story += " query{" + bytes + "}";
+            tell(" query{" + bytes + "}");
             load(bytes);
             int want = model.query(bytes);
             due("query()", x.query(), want);
@@ -94,12 +80,12 @@ public final class HighlightPlacesModelRuns {
         }
 
         void limit(int n) {
-            story += " limit " + n;
+            tell(" limit " + n);
             due("limit(" + n + ")", x.limit(n), model.limit(n));
         }
 
         void passages(int n) {
-            story += " passages " + n;
+            tell(" passages " + n);
             due("passages(" + n + ")", x.passages(n), model.passages(n));
         }
 
@@ -144,16 +130,9 @@ public final class HighlightPlacesModelRuns {
         void print(boolean whole) {
             String want = model.print(whole);
             due("print(" + whole + ")", x.print(whole), want.length());
-            StringBuilder got = new StringBuilder();
-            for (int i = 0; i < want.length(); i++) {
-                got.append((char) x.printed(i));
-            }
             due("printed(-1)", x.printed(-1), -1);
             due("printed behind", x.printed(want.length()), -1);
-            if (!got.toString().equals(want)) {
-                wrong++;
-                System.out.println("run " + run + story + ": printed " + got + ", due is " + want);
-            }
+            Bench.due("printed", x.printed(), want);
         }
     }
 
@@ -756,7 +735,7 @@ public final class HighlightPlacesModelRuns {
     /** Makes texts and queries up; most are right, some have a byte changed, left out or put in. */
     private static final class Maker {
         private static final String[] WORDS = {"sun", "sea", "set", "Sun", "suns", "su", "son", "a", "ab", "SEA", "b2",
-            "seas", "s", "sunset"};
+            "seas", "s", "sunset", "x", "Z"};
         private static final String[] BETWEEN = {" ", " ", " ", " ", ". ", "! ", "?", "? ", ".", ", ", " (", "&amp;",
             " &lt; ", "&gt;", "  ", ".) ", ". - "};
         private static final String[] TAGS = {"b", "i", "p", "em", "p", "pp", "abcdefgh"};
@@ -777,16 +756,34 @@ public final class HighlightPlacesModelRuns {
         }
 
         String text() {
+            return below(8) == 0 ? manyWords() : someWords();
+        }
+
+        /** Some 300 words, a few more or less, so that the last ones stand at the edge. */
+        String manyWords() {
+            StringBuilder out = new StringBuilder();
+            int words = 296 + below(8);
+            for (int i = 0; i < words; i++) {
+                boolean tagged = below(60) == 0;
+                out.append(tagged ? "<p>" : "").append("absZ".charAt(below(4))).append(tagged ? "</p>" : "");
+                out.append(below(9) == 0 ? ". " : " ");
+            }
+            return spoil(out);
+        }
+
+        String someWords() {
             StringBuilder out = new StringBuilder();
             List<String> open = new ArrayList<>();
+            int openMost = below(10) == 0 ? 9 : 8;
+            int openings = below(4) == 0 ? 3 : 1;
             int parts = below(below(5) == 0 ? 200 : 60);
             for (int i = 0; i < parts; i++) {
-                int kind = below(12);
+                int kind = below(11 + openings);
                 if (kind < 8) {
                     out.append(of(WORDS)).append(below(6) == 0 ? "" : of(BETWEEN));
                 } else if (kind == 9) {
                     out.append(of(BETWEEN));
-                } else if (kind == 10 && open.size() < 8) {
+                } else if (kind > 9 && kind < 10 + openings && open.size() < openMost) {
                     open.add(of(TAGS));
                     out.append('<').append(open.get(open.size() - 1)).append('>');
                 } else if (!open.isEmpty()) {
@@ -801,8 +798,41 @@ public final class HighlightPlacesModelRuns {
 
         String query() {
             StringBuilder out = new StringBuilder();
-            putAny(out, below(4));
+            int kind = below(8);
+            if (kind == 0) {
+                putMany(out);
+            } else if (kind == 1) {
+                putDeep(out);
+            } else {
+                putAny(out, below(4));
+            }
             return spoil(out);
+        }
+
+        /** Some 12 LEAVES, a few more or less. */
+        void putMany(StringBuilder out) {
+            int leaves = 10 + below(4);
+            for (int i = 0; i < leaves; i++) {
+                out.append(i == 0 ? "" : below(4) == 0 ? "&" : " | ").append(below(9) == 0 ? "!" : "");
+                if (below(3) == 0) {
+                    putPhrase(out);
+                } else {
+                    putTerm(out);
+                }
+            }
+        }
+
+        /** ! and ( within each other, some eight. */
+        void putDeep(StringBuilder out) {
+            int depth = 6 + below(4);
+            String closing = "";
+            for (int i = 0; i < depth; i++) {
+                boolean group = below(3) > 0;
+                out.append(group ? "(" : "!");
+                closing += group ? below(4) == 0 ? "| sun)" : ")" : "";
+            }
+            putTerm(out);
+            out.append(closing);
         }
 
         void putAny(StringBuilder out, int depth) {
@@ -844,7 +874,7 @@ public final class HighlightPlacesModelRuns {
         }
 
         void putTerm(StringBuilder out) {
-            out.append(of(WORDS));
+            out.append(below(60) == 0 ? "abcdefghijklmnopqrstu".substring(below(4)) : of(WORDS));
             int kind = below(6);
             out.append(kind == 0 ? "*" : kind == 1 ? "~" : "");
         }
