@@ -438,17 +438,17 @@ public final class HighlightPlacesPromises {
     private static void letters() {
         Bench bench = Bench.ofText("A<b>b</b>Z9 x&amp;y");
         due("letters", bench.words(), "abz9 x y");
+        int[] lengths = {4, 1, 1, 0, 0};
+        for (int k = 0; k < 5; k++) {
+            due("letter(" + k + ", -1)", bench.letter(k, -1), BAD);
+            for (int i = lengths[k]; i < lengths[k] + 5; i++) {
+                due("letter(" + k + ", " + i + ")", bench.letter(k, i), BAD);
+            }
+        }
         due("letter(0, 0)", bench.letter(0, 0), 'a');
         due("letter(0, 3)", bench.letter(0, 3), '9');
-        due("letter(0, 4)", bench.letter(0, 4), BAD);
-        due("letter(0, -1)", bench.letter(0, -1), BAD);
         due("letter(1, 0)", bench.letter(1, 0), 'x');
-        due("letter(1, 1)", bench.letter(1, 1), BAD);
-        due("letter(1, -1)", bench.letter(1, -1), BAD);
         due("letter(2, 0)", bench.letter(2, 0), 'y');
-        due("letter(2, 1)", bench.letter(2, 1), BAD);
-        due("letter(3, 0)", bench.letter(3, 0), BAD);
-        due("letter(3, -1)", bench.letter(3, -1), BAD);
         due("letter(-1, 0)", bench.letter(-1, 0), BAD);
         due("letter(-1, -1)", bench.letter(-1, -1), BAD);
         for (int far : Bench.FAR) {
@@ -741,76 +741,6 @@ public final class HighlightPlacesPromises {
         due("count(6) of 300", bench.count(6), 1);
     }
 
-    // All of them together
-
-    private static Bench halfWay() {
-        Bench bench = Bench.of("sea. sun. <b>sea</b>. sun sun", "sun | \"sea sun\"");
-        bench.passages(2);
-        bench.print(false);
-        bench.load("half a tape");
-        return bench;
-    }
-
-    /** Calls that only ask change nothing: an object that was asked much answers as one that was not. */
-    private static void asking() {
-        Bench bench = halfWay();
-        for (int k = -1; k <= 3; k++) {
-            for (int what = -1; what <= 5; what++) {
-                bench.word(k, what);
-                bench.letter(k, what);
-                bench.sentence(k, what);
-                bench.leaf(k, what);
-                bench.place(k, what);
-                bench.passage(k, what);
-                bench.count(what);
-            }
-            bench.matches();
-            bench.printed(k);
-        }
-        Bench other = halfWay();
-        due("put out and on THE TAPE", bench.printed() + bench.count(8), other.printed() + other.count(8));
-        due("all", bench.all(), other.all());
-        due("it is still the same object", bench.isRenewed() ? 1 : 0, 0);
-    }
-
-    /** One object, used again for longer and shorter texts and queries, answers as a new one does. */
-    private static void usedAgain() {
-        String[] texts = {SUN, "b", "<p>One. Two</p> three! four five six. seven sun", "", "sun sea sun", ". a<p>b</p>."};
-        String[] queries = {SUN_QUERY, "b*", "\"one two three\"/9 | !(a & \"four five\") & (six | sun)", "!a", "zz~",
-            "(a|b)&!c"};
-        for (String query : queries) {
-            Bench bench = new Bench();
-            for (String text : texts) {
-                bench.text("<p>x. y</p> z<");
-                bench.query("a & (\"b c*\"/3 | !d");
-                bench.text(text);
-                bench.query("sun & \"sea sun\" | a");
-                bench.query(query);
-                due("again {" + text + "} {" + query + "}", wholeAndSome(bench), wholeAndSome(Bench.of(text, query)));
-            }
-        }
-    }
-
-    private static String wholeAndSome(Bench bench) {
-        bench.passages(2);
-        return bench.all() + bench.whole() + bench.some();
-    }
-
-    /** Two objects have nothing in common. */
-    private static void twoObjects() {
-        Bench one = Bench.of("sun. sea", "sun");
-        one.passages(1);
-        one.print(true);
-        one.load("tape");
-        String before = one.all() + one.printed() + one.count(8);
-        Bench other = Bench.of(SUN, SUN_QUERY);
-        other.limit(3);
-        other.passages(4);
-        other.print(false);
-        due("the first one", one.all() + one.printed() + one.count(8), before);
-        due("a new one's LIMIT", new Bench().limit(1), 300);
-    }
-
     private static void untilTwelve() {
         Bench.part("promise 1");
         newObjectChanges();
@@ -864,10 +794,6 @@ public final class HighlightPlacesPromises {
         Bench.part("promise 17");
         counts();
         countBehindLimit();
-        Bench.part("all promises");
-        asking();
-        usedAgain();
-        twoObjects();
     }
 
     public static void main(String[] args) {

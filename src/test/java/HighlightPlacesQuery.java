@@ -213,7 +213,7 @@ public final class HighlightPlacesQuery {
         right("\"a b c d e f\" & ".repeat(11) + "\"a b c d e f\"", 12);
         Bench.due("all TERMS there can be", leafRow("\"a b c d e f\"|".repeat(11) + "\"a b c d e f\"", 0),
             "6 6 6 6 6 6 6 6 6 6 6 6");
-        Bench bench = Bench.of("a b c d e f", "\"a b c d e f\"|".repeat(11) + "\"a b c d e f*\"");
+        Bench bench = Bench.of("a b c d e fx", "\"a b c d e f*\"|".repeat(11) + "\"a b c d ex~ f~\"");
         Bench.due("they are all found", bench.leaves(4), "1 1 1 1 1 1 1 1 1 1 1 1");
     }
 
@@ -485,6 +485,8 @@ public final class HighlightPlacesQuery {
         placed("a b a b", "\"a b\"", "0-1 2-3");
         placed("a b c d e f", "\"a b c d e f\"", "0-5");
         placed("x a. b x", "\"a b\"", "1-2");
+        placed("a b b", "\"a b\"", "0-1");
+        placed("a a b", "\"a b\"", "1-2");
         placed("a", "\"a\"", "0-0");
         placed("a a", "\"a\"/3", "0-0 1-1");
     }
@@ -502,6 +504,12 @@ public final class HighlightPlacesQuery {
         placed("a x a x x b", "\"a b\"/1", "");
         placed("a b c b c", "\"a b c\"/2", "0-0 1-1 2-2 3-3 4-4");
         placed("a c b c", "\"a b c\"/9", "0-0 2-2 3-3");
+        placed("a x b b", "\"a b\"/1", "0-0 2-2");
+        placed("a b c b x", "\"a b c\"/2", "0-0 1-1 2-2");
+        placed("a b c b c", "\"a b c c\"/1", "0-0 1-1 2-2 4-4");
+        placed("a b c b c b", "\"a b c\"/2", "0-0 1-1 2-2 3-3 4-4");
+        placed("a c b x c", "\"a b c\"/2", "0-0 2-2 4-4");
+        placed("x a b b x b b", "\"a b\"/3", "1-1 2-2 3-3 5-5");
         placed("b a b", "\"a b\"/9", "1-1 2-2");
         placed("a b a", "\"a b\"/9", "0-0 1-1");
     }

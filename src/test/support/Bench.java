@@ -11,7 +11,7 @@ final class Bench {
     static final int[] FAR = {Integer.MIN_VALUE, -1000, -2, 1000, 1000000, Integer.MAX_VALUE};
 
     private static final int CALLS_MOST = 512;
-    private static final int SECONDS_MOST = 300;
+    private static final int SECONDS_MOST = 180;
     private static int wrong = 0;
     private static String part = "";
 
