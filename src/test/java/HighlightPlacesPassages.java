@@ -210,6 +210,22 @@ public final class HighlightPlacesPassages {
         some("a. x. ".repeat(9), "a", 9, "[a]....".repeat(8) + "[a].");
     }
 
+    /** About the longest that can be put out: nine PASSAGES of many places, in eight tags of eight letters. */
+    private static void longest() {
+        String open = "<abcdefgh>".repeat(8);
+        String closed = "</abcdefgh>".repeat(8);
+        String sentence = "a-".repeat(31) + "a. ";
+        String one = open + "[a]-".repeat(31) + "[a]." + closed;
+        String text = open + (sentence + "x. ").repeat(9) + closed;
+        some(text, "a", 9, (one + "...").repeat(8) + one);
+        some(text, "a", 1, one);
+        Bench bench = Bench.of(text, "a");
+        bench.passages(9);
+        Bench.due("its bytes", bench.print(false), 2688);
+        Bench.due("the last one", bench.printed(2687), '>');
+        Bench.due("behind it", bench.printed(2688), Bench.BAD);
+    }
+
     public static void main(String[] args) {
         Bench.begin();
         Bench.part("chosen sentences");
@@ -227,6 +243,7 @@ public final class HighlightPlacesPassages {
         openAtEnd();
         placesInPassages();
         dots();
+        longest();
         Bench.end();
     }
 }
